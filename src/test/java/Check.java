@@ -33,13 +33,18 @@ final class Check {
         raises(what, IllegalStateException.class, call);
     }
 
-    /** The exception is of just this class: what the machine throws is often of one below it. */
+    /** Whether a throw statement of the class threw it, and not the machine or its library. */
+    static boolean isOwn(RuntimeException e) {
+        StackTraceElement[] trace = e.getStackTrace();
+        return trace.length > 0 && trace[0].getClassName().startsWith("DieRegister");
+    }
+
     private static void raises(String what, Class<? extends RuntimeException> due, Runnable call) {
         asked++;
         try {
             call.run();
         } catch (RuntimeException e) {
-            if (e.getClass() != due) {
+            if (e.getClass() != due || !isOwn(e)) {
                 tell(what + " threw " + e + ", due is " + due.getName());
             }
             return;

@@ -15,6 +15,7 @@ public final class ModelTest {
     private static final int OUT_OF_BOUNDS = -1001;
     private static final int BAD_ARGUMENT = -1002;
     private static final int BAD_STATE = -1003;
+    private static final int MACHINE_FAULT = -1004;
 
     private static final int CONDEMN = 10;
     private static final int GIVE = 16;
@@ -270,17 +271,17 @@ public final class ModelTest {
     }
 
     private static int code(RuntimeException e) {
+        if (!Check.isOwn(e)) {
+            Check.tell("the machine threw " + e);
+            return MACHINE_FAULT;
+        }
         if (e.getClass() == IndexOutOfBoundsException.class) {
             return OUT_OF_BOUNDS;
         }
         if (e.getClass() == IllegalArgumentException.class) {
             return BAD_ARGUMENT;
         }
-        if (e.getClass() == IllegalStateException.class) {
-            return BAD_STATE;
-        }
-        Check.tell("the machine threw " + e);
-        return -9999;
+        return e.getClass() == IllegalStateException.class ? BAD_STATE : MACHINE_FAULT;
     }
 
     private static int answer(DieRegister x, int call, int[] a) {

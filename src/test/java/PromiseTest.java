@@ -38,6 +38,7 @@ public final class PromiseTest {
         coinAt();
         ring();
         ringFairness();
+        ringOfDifferentCollectors();
         ringBeginsWithTheLowest();
         ringOrderByLength();
         ringOrderByDies();
@@ -809,6 +810,17 @@ public final class PromiseTest {
             Check.outOfBounds("coinAt of a wrong one", () -> x.coinAt(wrong, 0));
             Check.outOfBounds("coinAt wrong place", () -> x.coinAt(7, wrong));
         }
+        // Prices that differ by 1: 2000 shared by 40, and by 39.
+        DieRegister y = new DieRegister();
+        y.addDie(0);
+        y.addDie(0);
+        y.strike(0, 20);
+        y.strike(0, 19);
+        y.strike(1, 20);
+        y.strike(1, 18);
+        y.give(0, 2);
+        y.give(39, 2);
+        places(y, 2, 39, 0);
     }
 
     private static void places(DieRegister x, int collector, int... due) {
@@ -895,6 +907,34 @@ public final class PromiseTest {
         rings("fairness 10", w, 0, 1001);
         w.setFairness(0, 11);
         rings("fairness 11", w);
+    }
+
+    private static void ringOfDifferentCollectors() {
+        // The prices of the dies are 1000, 2000, 4000, 1000. To give 4000 for 1000 is not fair, so
+        // the collector 1 would have to give the coin 1 to themself in between.
+        DieRegister x = mint("1141", 0, 1, 3, 0);
+        offer(x, 0, 0);
+        offer(x, 1, 1);
+        offer(x, 2, 1);
+        x.want(1, 0, true);
+        x.want(1, 1, true);
+        x.want(0, 2, true);
+        rings("a collector at two places of three", x);
+        x.setFairness(1, 25);
+        rings("the short way", x, 0, 1002);
+        // The same with another collector ahead of the one who would stand there twice.
+        DieRegister y = mint("1141", 0, 1, 3, 0);
+        offer(y, 0, 0);
+        offer(y, 6, 1);
+        offer(y, 1, 2);
+        offer(y, 2, 2);
+        y.want(1, 0, true);
+        y.want(2, 3, true);
+        y.want(2, 1, true);
+        y.want(0, 2, true);
+        rings("a collector at two places of four", y);
+        y.setFairness(2, 25);
+        rings("the short way", y, 0, 1006, 2002);
     }
 
     private static void ringBeginsWithTheLowest() {
