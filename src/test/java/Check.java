@@ -39,7 +39,7 @@ final class Check {
         return trace.length > 0 && trace[0].getClassName().startsWith("DieRegister");
     }
 
-    private static void raises(String what, Class<? extends RuntimeException> due, Runnable call) {
+    static void raises(String what, Class<? extends RuntimeException> due, Runnable call) {
         asked++;
         try {
             call.run();

@@ -53,50 +53,6 @@ public final class PromiseTest {
         Check.end();
     }
 
-    // ---- rows of calls that many tests begin with
-
-    /** A die for each type given; coins are struck of each, as many as the text's digit tells. */
-    private static DieRegister mint(String counts, int... types) {
-        DieRegister x = new DieRegister();
-        for (int die = 0; die < types.length; die++) {
-            x.addDie(types[die]);
-        }
-        for (int die = 0; die < types.length; die++) {
-            int count = counts.charAt(die) - '0';
-            if (count > 0) {
-                x.strike(die, count);
-            }
-        }
-        return x;
-    }
-
-    /** Dies 0 and 1 with the same two defects; 0 has struck the coins 0 to 2, 1 the coins 3, 4. */
-    private static DieRegister forged() {
-        DieRegister x = new DieRegister();
-        x.addDie(1);
-        x.crack(0, 3);
-        x.crack(0, 7);
-        x.strike(0, 3);
-        x.cast(0);
-        x.strike(1, 2);
-        return x;
-    }
-
-    private static void offer(DieRegister x, int coin, int collector) {
-        x.give(coin, collector);
-        x.mark(coin, true);
-    }
-
-    /** Collector 0 offers coin 0 of die 0 and wants die 1; collector 1 the other way round. */
-    private static DieRegister pair(int typeOfFirst, int typeOfSecond) {
-        DieRegister x = mint("11", typeOfFirst, typeOfSecond);
-        offer(x, 0, 0);
-        offer(x, 1, 1);
-        x.want(0, 1, true);
-        x.want(1, 0, true);
-        return x;
-    }
-
     // ---- dies and coins
 
     private static void newObject() {
@@ -143,7 +99,7 @@ public final class PromiseTest {
     }
 
     private static void crack() {
-        DieRegister x = mint("0", 0);
+        DieRegister x = Scene.mint("0", 0);
         for (int defect = 15; defect >= 0; defect--) {
             Check.same("crack", 16 - defect, x.crack(0, defect));
         }
@@ -160,7 +116,7 @@ public final class PromiseTest {
             Check.outOfBounds("crack wrong die", () -> x.crack(wrong, wrong));
             Check.badArgument("crack wrong defect", () -> x.crack(0, wrong));
         }
-        DieRegister y = forged();
+        DieRegister y = Scene.forged();
         y.condemn(1);
         Check.badState("crack a condemned die", () -> y.crack(1, 0));
         Check.badArgument("crack a condemned die, wrong defect", () -> y.crack(1, -1));
@@ -168,7 +124,7 @@ public final class PromiseTest {
     }
 
     private static void strike() {
-        DieRegister x = mint("00", 2, 3);
+        DieRegister x = Scene.mint("00", 2, 3);
         Check.same("strike", 0, x.strike(1, 1));
         Check.same("strike", 1, x.strike(0, 20));
         Check.same("strike", 21, x.strike(1, 3));
@@ -188,7 +144,7 @@ public final class PromiseTest {
             Check.badArgument("strike wrong count", () -> x.strike(0, wrong));
         }
         Check.same("struck after wrong ones", 24, x.struck());
-        DieRegister y = forged();
+        DieRegister y = Scene.forged();
         y.condemn(1);
         Check.badState("strike with a condemned die", () -> y.strike(1, 1));
         Check.badArgument("strike 0 with a condemned die", () -> y.strike(1, 0));
@@ -196,7 +152,7 @@ public final class PromiseTest {
     }
 
     private static void strikeLimits() {
-        DieRegister x = mint("00000", 0, 0, 0, 0, 0);
+        DieRegister x = Scene.mint("00000", 0, 0, 0, 0, 0);
         x.strike(0, 20);
         x.strike(0, 19);
         Check.badArgument("count comes first", () -> x.strike(0, 21));
@@ -221,7 +177,7 @@ public final class PromiseTest {
     }
 
     private static void cast() {
-        DieRegister x = forged();
+        DieRegister x = Scene.forged();
         x.crack(0, 9);
         x.strike(0, 1);
         Check.same("cast", 2, x.cast(5));
@@ -257,7 +213,7 @@ public final class PromiseTest {
     }
 
     private static void melt() {
-        DieRegister x = mint("31", 0, 1);
+        DieRegister x = Scene.mint("31", 0, 1);
         x.give(1, 7);
         x.give(2, 0);
         Check.same("melt in the mint", NONE, x.melt(0));
@@ -278,7 +234,7 @@ public final class PromiseTest {
         for (int wrong : WRONG) {
             Check.outOfBounds("melt wrong coin", () -> x.melt(wrong));
         }
-        DieRegister y = forged();
+        DieRegister y = Scene.forged();
         y.condemn(1);
         Check.same("melt a false one", NONE, y.melt(3));
         Check.same("rarity of a condemned die", 0, y.rarity(1));
@@ -293,7 +249,7 @@ public final class PromiseTest {
     }
 
     private static void struck() {
-        DieRegister x = mint("4", 0);
+        DieRegister x = Scene.mint("4", 0);
         Check.same("struck", 4, x.struck());
         x.melt(3);
         Check.same("struck and melted", 4, x.struck());
@@ -302,7 +258,7 @@ public final class PromiseTest {
     }
 
     private static void defects() {
-        DieRegister x = mint("1", 3);
+        DieRegister x = Scene.mint("1", 3);
         x.crack(0, 15);
         x.strike(0, 2);
         x.crack(0, 0);
@@ -319,7 +275,7 @@ public final class PromiseTest {
     }
 
     private static void couldBeOf() {
-        DieRegister x = mint("1110", 0, 0, 1, 0);
+        DieRegister x = Scene.mint("1110", 0, 0, 1, 0);
         Check.same("by type", 0b0011, x.couldBeOf(0));
         Check.same("by another type", 0b0100, x.couldBeOf(2));
         x.crack(0, 4);
@@ -339,14 +295,14 @@ public final class PromiseTest {
         for (int wrong : WRONG) {
             Check.outOfBounds("couldBeOf wrong coin", () -> x.couldBeOf(wrong));
         }
-        DieRegister y = forged();
+        DieRegister y = Scene.forged();
         y.condemn(1);
         Check.same("condemned", 0b11, y.couldBeOf(0));
         Check.same("false", 0b11, y.couldBeOf(3));
     }
 
     private static void stages() {
-        DieRegister x = mint("00", 0, 0);
+        DieRegister x = Scene.mint("00", 0, 0);
         Check.same("no stage", 0, x.stages(0));
         x.strike(0, 3);
         Check.same("a stage", 1, x.stages(0));
@@ -377,7 +333,7 @@ public final class PromiseTest {
     // ---- proofs and prices
 
     private static void proof() {
-        DieRegister x = forged();
+        DieRegister x = Scene.forged();
         Check.same("proof", 0, x.proof(1));
         Check.same("no proof of the first one", NONE, x.proof(0));
         x.cast(3);
@@ -405,7 +361,7 @@ public final class PromiseTest {
     }
 
     private static void proofNeedsAnEarlierStage() {
-        DieRegister x = mint("1", 0);
+        DieRegister x = Scene.mint("1", 0);
         x.crack(0, 5);
         x.strike(0, 1);
         x.cast(0);
@@ -429,7 +385,7 @@ public final class PromiseTest {
         x.crack(4, 5);
         x.strike(4, 1);
         Check.same("without a cast", 0, x.proof(4));
-        DieRegister y = mint("00", 0, 0);
+        DieRegister y = Scene.mint("00", 0, 0);
         for (int die = 0; die < 2; die++) {
             y.crack(die, 1);
             y.crack(die, 2);
@@ -438,7 +394,7 @@ public final class PromiseTest {
         y.strike(0, 1);
         Check.same("a higher number may be the source", 1, y.proof(0));
         Check.same("not the other way", NONE, y.proof(1));
-        DieRegister z = mint("0", 0);
+        DieRegister z = Scene.mint("0", 0);
         z.crack(0, 1);
         z.crack(0, 2);
         z.strike(0, 1);
@@ -452,7 +408,7 @@ public final class PromiseTest {
     }
 
     private static void condemn() {
-        DieRegister x = forged();
+        DieRegister x = Scene.forged();
         x.melt(4);
         x.strike(1, 2);
         x.give(5, 2);
@@ -477,7 +433,7 @@ public final class PromiseTest {
         for (int wrong : WRONG) {
             Check.outOfBounds("condemn wrong die", () -> x.condemn(wrong));
         }
-        DieRegister y = forged();
+        DieRegister y = Scene.forged();
         y.melt(3);
         y.melt(4);
         Check.same("condemn with all melted", 0, y.condemn(1));
@@ -486,7 +442,7 @@ public final class PromiseTest {
     }
 
     private static void isCondemned() {
-        DieRegister x = forged();
+        DieRegister x = Scene.forged();
         Check.no("not condemned, with a proof", x.isCondemned(1));
         x.condemn(1);
         Check.yes("condemned", x.isCondemned(1));
@@ -499,7 +455,7 @@ public final class PromiseTest {
     }
 
     private static void isTrue() {
-        DieRegister x = forged();
+        DieRegister x = Scene.forged();
         for (int coin = 0; coin < 5; coin++) {
             Check.yes("true", x.isTrue(coin));
         }
@@ -515,7 +471,7 @@ public final class PromiseTest {
     }
 
     private static void rarity() {
-        DieRegister x = forged();
+        DieRegister x = Scene.forged();
         x.addDie(0);
         int[] due = {3, 2, 0};
         rarities(x, due);
@@ -548,7 +504,7 @@ public final class PromiseTest {
     }
 
     private static void price() {
-        DieRegister x = mint("1256", 0, 1, 2, 3);
+        DieRegister x = Scene.mint("1256", 0, 1, 2, 3);
         Check.same("price of type 0", 1000, x.price(0));
         Check.same("price of type 1", 1333, x.price(1));
         Check.same("price of type 2", 1666, x.price(3));
@@ -563,7 +519,7 @@ public final class PromiseTest {
         for (int wrong : WRONG) {
             Check.outOfBounds("price wrong coin", () -> x.price(wrong));
         }
-        DieRegister y = forged();
+        DieRegister y = Scene.forged();
         Check.same("true", 1333, y.price(3));
         y.condemn(1);
         Check.same("false", 0, y.price(3));
@@ -601,7 +557,7 @@ public final class PromiseTest {
     }
 
     private static void giveEndsTheWant() {
-        DieRegister x = mint("21", 0, 0);
+        DieRegister x = Scene.mint("21", 0, 0);
         x.want(3, 0, true);
         x.want(3, 1, true);
         x.want(4, 0, true);
@@ -619,7 +575,7 @@ public final class PromiseTest {
     }
 
     private static void want() {
-        DieRegister x = forged();
+        DieRegister x = Scene.forged();
         Check.same("want", 1, x.want(0, 1, true));
         Check.same("want again", 1, x.want(0, 1, true));
         Check.same("want another one", 2, x.want(0, 0, true));
@@ -663,7 +619,7 @@ public final class PromiseTest {
     }
 
     private static void mark() {
-        DieRegister x = mint("3", 0);
+        DieRegister x = Scene.mint("3", 0);
         Check.badState("mark in the mint", () -> x.mark(0, true));
         x.give(0, 5);
         Check.no("mark", x.mark(0, true));
@@ -683,18 +639,18 @@ public final class PromiseTest {
     }
 
     private static void markEnds() {
-        DieRegister x = pair(0, 0);
+        DieRegister x = Scene.pair(0, 0);
         x.swap();
         Check.no("the mark of the first one ended", x.mark(0, false));
         Check.no("the mark of the second one ended", x.mark(1, false));
-        DieRegister y = forged();
-        offer(y, 3, 0);
+        DieRegister y = Scene.forged();
+        Scene.offer(y, 3, 0);
         y.condemn(1);
         Check.yes("the mark of a false one stays", y.mark(3, true));
     }
 
     private static void owner() {
-        DieRegister x = mint("3", 0);
+        DieRegister x = Scene.mint("3", 0);
         Check.same("in the mint", NONE, x.owner(0));
         x.give(0, 0);
         x.give(1, 7);
@@ -703,7 +659,7 @@ public final class PromiseTest {
         Check.same("in the mint", NONE, x.owner(2));
         x.melt(1);
         Check.same("melted", NONE, x.owner(1));
-        DieRegister y = pair(0, 0);
+        DieRegister y = Scene.pair(0, 0);
         y.swap();
         Check.same("swapped", 1, y.owner(0));
         Check.same("swapped", 0, y.owner(1));
@@ -714,7 +670,7 @@ public final class PromiseTest {
     }
 
     private static void wants() {
-        DieRegister x = mint("111", 0, 0, 0);
+        DieRegister x = Scene.mint("111", 0, 0, 0);
         x.want(6, 2, true);
         x.want(6, 0, true);
         Check.same("wants", 0b101, x.wants(6));
@@ -725,7 +681,7 @@ public final class PromiseTest {
         for (int wrong : WRONG) {
             Check.outOfBounds("wants of a wrong one", () -> x.wants(wrong));
         }
-        DieRegister y = pair(0, 0);
+        DieRegister y = Scene.pair(0, 0);
         y.want(0, 0, true);
         y.swap();
         Check.same("a swap ends the want of what is got", 0b01, y.wants(0));
@@ -733,7 +689,7 @@ public final class PromiseTest {
     }
 
     private static void offers() {
-        DieRegister x = mint("421", 0, 0, 0);
+        DieRegister x = Scene.mint("421", 0, 0, 0);
         x.give(0, 1);
         Check.same("a single one", 0, x.offers(1));
         x.mark(0, true);
@@ -746,7 +702,7 @@ public final class PromiseTest {
         x.give(5, 2);
         Check.same("the other one is somebody else's", 0b001, x.offers(1));
         Check.same("a single one", 0, x.offers(2));
-        offer(x, 6, 1);
+        Scene.offer(x, 6, 1);
         Check.same("two dies", 0b101, x.offers(1));
         x.melt(0);
         Check.same("the other one was melted", 0b100, x.offers(1));
@@ -756,10 +712,10 @@ public final class PromiseTest {
         for (int wrong : WRONG) {
             Check.outOfBounds("offers of a wrong one", () -> x.offers(wrong));
         }
-        DieRegister y = forged();
+        DieRegister y = Scene.forged();
         y.give(3, 0);
         y.give(4, 0);
-        offer(y, 0, 0);
+        Scene.offer(y, 0, 0);
         Check.same("before", 0b11, y.offers(0));
         y.condemn(1);
         Check.same("false ones are not offered", 0b01, y.offers(0));
@@ -768,7 +724,7 @@ public final class PromiseTest {
     }
 
     private static void worth() {
-        DieRegister x = forged();
+        DieRegister x = Scene.forged();
         x.give(0, 4);
         x.give(3, 4);
         Check.same("worth", 1000 + 1333, x.worth(4));
@@ -789,7 +745,7 @@ public final class PromiseTest {
     }
 
     private static void coinAt() {
-        DieRegister x = forged();
+        DieRegister x = Scene.forged();
         x.addDie(1);
         x.strike(2, 2);
         x.give(6, 7);
@@ -842,7 +798,7 @@ public final class PromiseTest {
     }
 
     private static void ring() {
-        DieRegister x = pair(0, 0);
+        DieRegister x = Scene.pair(0, 0);
         rings("two", x, 0, 1001);
         x.want(0, 1, false);
         rings("the first one does not want", x);
@@ -858,41 +814,41 @@ public final class PromiseTest {
         rings("two of a die", x, 0, 1001);
         x.melt(0);
         rings("melted", x);
-        DieRegister y = mint("1111", 0, 0, 0, 0);
+        DieRegister y = Scene.mint("1111", 0, 0, 0, 0);
         for (int c = 0; c < 4; c++) {
-            offer(y, c, c);
+            Scene.offer(y, c, c);
             y.want(c, (c + 1) % 4, true);
         }
         rings("four", y, 0, 3003, 2002, 1001);
-        DieRegister z = mint("11111", 0, 0, 0, 0, 0);
+        DieRegister z = Scene.mint("11111", 0, 0, 0, 0, 0);
         for (int c = 0; c < 5; c++) {
-            offer(z, c, c);
+            Scene.offer(z, c, c);
             z.want(c, (c + 1) % 5, true);
         }
         rings("five are too many", z);
         z.want(3, 0, true);
         rings("four of five", z, 0, 3003, 2002, 1001);
-        DieRegister w = mint("1", 0);
-        offer(w, 0, 3);
+        DieRegister w = Scene.mint("1", 0);
+        Scene.offer(w, 0, 3);
         w.want(3, 0, true);
         rings("one is not enough", w);
     }
 
     private static void ringFairness() {
         // Prices: 1000 of type 0, 2000 of type 1; collector 0 gives 2000 for 1000.
-        DieRegister x = pair(1, 0);
+        DieRegister x = Scene.pair(1, 0);
         rings("just fair", x, 0, 1001);
         x.setFairness(0, 51);
         rings("not fair for the first one", x);
         x.setFairness(0, 49);
         x.setFairness(1, 100);
         rings("the second one gets more", x, 0, 1001);
-        DieRegister y = pair(0, 1);
+        DieRegister y = Scene.pair(0, 1);
         y.setFairness(1, 50);
         rings("just fair for the second one", y, 0, 1001);
         y.setFairness(1, 51);
         rings("not fair for the second one", y);
-        DieRegister z = pair(0, 0);
+        DieRegister z = Scene.pair(0, 0);
         z.setFairness(0, 100);
         z.setFairness(1, 100);
         rings("the same price", z, 0, 1001);
@@ -900,7 +856,7 @@ public final class PromiseTest {
         rings("coins grew less rare", z);
         z.melt(2);
         rings("coins grew rare", z, 0, 1001);
-        DieRegister w = pair(3, 0);
+        DieRegister w = Scene.pair(3, 0);
         w.setFairness(0, 0);
         rings("fairness 0", w, 0, 1001);
         w.setFairness(0, 10);
@@ -912,10 +868,10 @@ public final class PromiseTest {
     private static void ringOfDifferentCollectors() {
         // The prices of the dies are 1000, 2000, 4000, 1000. To give 4000 for 1000 is not fair, so
         // the collector 1 would have to give the coin 1 to themself in between.
-        DieRegister x = mint("1141", 0, 1, 3, 0);
-        offer(x, 0, 0);
-        offer(x, 1, 1);
-        offer(x, 2, 1);
+        DieRegister x = Scene.mint("1141", 0, 1, 3, 0);
+        Scene.offer(x, 0, 0);
+        Scene.offer(x, 1, 1);
+        Scene.offer(x, 2, 1);
         x.want(1, 0, true);
         x.want(1, 1, true);
         x.want(0, 2, true);
@@ -923,11 +879,11 @@ public final class PromiseTest {
         x.setFairness(1, 25);
         rings("the short way", x, 0, 1002);
         // The same with another collector ahead of the one who would stand there twice.
-        DieRegister y = mint("1141", 0, 1, 3, 0);
-        offer(y, 0, 0);
-        offer(y, 6, 1);
-        offer(y, 1, 2);
-        offer(y, 2, 2);
+        DieRegister y = Scene.mint("1141", 0, 1, 3, 0);
+        Scene.offer(y, 0, 0);
+        Scene.offer(y, 6, 1);
+        Scene.offer(y, 1, 2);
+        Scene.offer(y, 2, 2);
         y.want(1, 0, true);
         y.want(2, 3, true);
         y.want(2, 1, true);
@@ -938,10 +894,10 @@ public final class PromiseTest {
     }
 
     private static void ringBeginsWithTheLowest() {
-        DieRegister x = mint("111", 0, 0, 0);
-        offer(x, 0, 7);
-        offer(x, 1, 2);
-        offer(x, 2, 5);
+        DieRegister x = Scene.mint("111", 0, 0, 0);
+        Scene.offer(x, 0, 7);
+        Scene.offer(x, 1, 2);
+        Scene.offer(x, 2, 5);
         x.want(2, 0, true);
         x.want(5, 1, true);
         x.want(7, 2, true);
@@ -949,16 +905,16 @@ public final class PromiseTest {
     }
 
     private static void ringOrderByLength() {
-        DieRegister x = mint("1111111", 0, 0, 0, 0, 0, 0, 0);
-        offer(x, 0, 0);
-        offer(x, 1, 1);
-        offer(x, 2, 2);
+        DieRegister x = Scene.mint("1111111", 0, 0, 0, 0, 0, 0, 0);
+        Scene.offer(x, 0, 0);
+        Scene.offer(x, 1, 1);
+        Scene.offer(x, 2, 2);
         x.want(1, 0, true);
         x.want(2, 1, true);
         x.want(0, 2, true);
         rings("three", x, 0, 1001, 2002);
-        offer(x, 3, 6);
-        offer(x, 4, 7);
+        Scene.offer(x, 3, 6);
+        Scene.offer(x, 4, 7);
         x.want(6, 4, true);
         x.want(7, 3, true);
         rings("two go before three", x, 6003, 7004);
@@ -967,11 +923,11 @@ public final class PromiseTest {
     }
 
     private static void ringOrderByDies() {
-        DieRegister x = mint("22222", 0, 0, 0, 0, 0);
-        offer(x, 4, 1);
-        offer(x, 2, 1);
-        offer(x, 6, 3);
-        offer(x, 8, 3);
+        DieRegister x = Scene.mint("22222", 0, 0, 0, 0, 0);
+        Scene.offer(x, 4, 1);
+        Scene.offer(x, 2, 1);
+        Scene.offer(x, 6, 3);
+        Scene.offer(x, 8, 3);
         x.want(3, 1, true);
         x.want(3, 2, true);
         x.want(1, 3, true);
@@ -981,7 +937,7 @@ public final class PromiseTest {
         rings("the next die of the second one", x, 1002, 3008);
         x.want(3, 1, false);
         rings("the next die of the first one", x, 1004, 3008);
-        offer(x, 0, 2);
+        Scene.offer(x, 0, 2);
         x.want(1, 0, true);
         x.want(2, 1, true);
         rings("the first die goes before the second collector", x, 1002, 2000);
@@ -999,9 +955,9 @@ public final class PromiseTest {
     }
 
     private static void ringOrderByCollectors() {
-        DieRegister x = mint("1111", 0, 0, 0, 0);
+        DieRegister x = Scene.mint("1111", 0, 0, 0, 0);
         for (int c = 0; c < 4; c++) {
-            offer(x, c, c);
+            Scene.offer(x, c, c);
         }
         x.want(1, 0, true);
         x.want(2, 1, true);
@@ -1025,11 +981,11 @@ public final class PromiseTest {
     }
 
     private static void ringOffersTrueCoinsAlone() {
-        DieRegister x = forged();
+        DieRegister x = Scene.forged();
         x.addDie(1);
         x.strike(2, 1);
-        offer(x, 3, 0);
-        offer(x, 5, 1);
+        Scene.offer(x, 3, 0);
+        Scene.offer(x, 5, 1);
         x.want(0, 2, true);
         x.want(1, 1, true);
         rings("not condemned yet", x, 3, 1005);
@@ -1039,7 +995,7 @@ public final class PromiseTest {
     }
 
     private static void ringAt() {
-        DieRegister x = pair(0, 0);
+        DieRegister x = Scene.pair(0, 0);
         Check.same("ringAt 0", 0, x.ringAt(0));
         Check.same("ringAt 1", 1001, x.ringAt(1));
         Check.outOfBounds("ringAt 2", () -> x.ringAt(2));
@@ -1054,8 +1010,8 @@ public final class PromiseTest {
         }
         y.addDie(0);
         y.strike(15, 1);
-        offer(y, 149, 7);
-        offer(y, 148, 6);
+        Scene.offer(y, 149, 7);
+        Scene.offer(y, 148, 6);
         y.want(7, 14, true);
         y.want(6, 15, true);
         y.setFairness(7, 0);
@@ -1063,7 +1019,7 @@ public final class PromiseTest {
     }
 
     private static void swap() {
-        DieRegister x = pair(0, 1);
+        DieRegister x = Scene.pair(0, 1);
         x.want(0, 0, true);
         Check.same("swap", 2, x.swap());
         Check.same("the coin of the first one", 1, x.owner(0));
@@ -1099,12 +1055,12 @@ public final class PromiseTest {
     }
 
     private static void swapInRings() {
-        DieRegister x = mint("2111", 0, 0, 0, 0);
+        DieRegister x = Scene.mint("2111", 0, 0, 0, 0);
         x.give(0, 0);
         x.give(1, 0);
-        offer(x, 2, 3);
-        offer(x, 3, 1);
-        offer(x, 4, 2);
+        Scene.offer(x, 2, 3);
+        Scene.offer(x, 3, 1);
+        Scene.offer(x, 4, 2);
         x.want(3, 0, true);
         x.want(1, 1, true);
         x.want(2, 2, true);
@@ -1124,15 +1080,15 @@ public final class PromiseTest {
     }
 
     private static void swapsAndTheirLimit() {
-        DieRegister x = mint("11", 0, 0);
+        DieRegister x = Scene.mint("11", 0, 0);
         x.give(0, 0);
         x.give(1, 1);
         for (int i = 0; i < 60; i++) {
             Check.same("swaps", i, x.swaps());
-            makeReady(x, i);
+            Scene.makeReady(x, i);
             Check.same("swap", 2, x.swap());
         }
-        makeReady(x, 60);
+        Scene.makeReady(x, 60);
         Check.same("swaps", 60, x.swaps());
         Check.same("a ring is ready", 2, x.ring());
         Check.badState("the 61st swap", x::swap);
@@ -1144,16 +1100,8 @@ public final class PromiseTest {
         Check.outOfBounds("no swap 60", () -> x.swapAt(60, 0));
     }
 
-    /** Lets both collectors offer their only coin, and want the die of the other one's. */
-    private static void makeReady(DieRegister x, int swaps) {
-        x.mark(0, true);
-        x.mark(1, true);
-        x.want(0, 1 - swaps % 2, true);
-        x.want(1, swaps % 2, true);
-    }
-
     private static void swapAt() {
-        DieRegister x = pair(0, 0);
+        DieRegister x = Scene.pair(0, 0);
         Check.outOfBounds("swapAt before a swap", () -> x.swapAt(0, 0));
         x.swap();
         x.mark(0, true);
@@ -1176,22 +1124,22 @@ public final class PromiseTest {
     }
 
     private static void spoiled() {
-        DieRegister x = forged();
+        DieRegister x = Scene.forged();
         x.addDie(1);
         x.strike(2, 2);
-        offer(x, 3, 0);
-        offer(x, 5, 1);
+        Scene.offer(x, 3, 0);
+        Scene.offer(x, 5, 1);
         x.want(0, 2, true);
         x.want(1, 1, true);
         x.swap();
         Check.same("nothing is false", 0, x.spoiled());
-        offer(x, 4, 0);
-        offer(x, 6, 1);
+        Scene.offer(x, 4, 0);
+        Scene.offer(x, 6, 1);
         x.want(0, 2, true);
         x.want(1, 1, true);
         x.swap();
         x.mark(5, true);
-        offer(x, 0, 1);
+        Scene.offer(x, 0, 1);
         x.want(0, 0, true);
         x.want(1, 2, true);
         x.swap();
