@@ -9,7 +9,8 @@ import java.util.function.Supplier;
  */
 public final class RefusalTest {
     private static final Class<? extends RuntimeException> INDEX = IndexOutOfBoundsException.class;
-    private static final Class<? extends RuntimeException> ARGUMENT = IllegalArgumentException.class;
+    private static final Class<? extends RuntimeException> ARGUMENT =
+            IllegalArgumentException.class;
     private static final Class<? extends RuntimeException> STATE = IllegalStateException.class;
 
     // The scene busy has 6 dies and 16 coins; 5, 7 and 13 were melted, the die 1 is condemned.
@@ -484,7 +485,7 @@ public final class RefusalTest {
     private static void wantIfCondemned() {
         int[] all = {0, 1, 2, 3, 4, 5, 6, 7};
         refuseEach("want: condemned", STATE, Scene::busy, all, (x, c) -> x.want(c, 1, true));
-        Check.same("not want a condemned one", 1, Scene.busy().want(7, 1, false));
+        Check.same("not want a condemned one", 2, Scene.busy().want(7, 1, false));
     }
 
     private static void setFairnessNoSuchCollector() {

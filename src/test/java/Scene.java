@@ -45,7 +45,7 @@ final class Scene {
         return x;
     }
 
-    /** As many collectors as told; each offers their coin to the next one, the last to the first. */
+    /** As many collectors as told; each offers what the next one wants, the last to the first. */
     static DieRegister round(int collectors) {
         DieRegister x = new DieRegister();
         for (int c = 0; c < collectors; c++) {
@@ -98,6 +98,12 @@ final class Scene {
         x.want(3, 3, true);
         x.want(5, 4, true);
         x.want(7, 5, true);
+        // Wants that a coin would end if a call that is refused gave it.
+        x.want(0, 0, true);
+        x.want(0, 2, true);
+        x.want(0, 3, true);
+        x.want(1, 0, true);
+        x.want(7, 0, true);
         return x;
     }
 
@@ -112,7 +118,7 @@ final class Scene {
         return x;
     }
 
-    /** A die that has struck 40 coins, of which the coin 0 was melted, and one that has struck 1. */
+    /** A die that has struck 40 coins, of which the coin 0 was melted, and one with a coin. */
     static DieRegister fullDie() {
         DieRegister x = new DieRegister();
         x.addDie(2);
@@ -138,7 +144,7 @@ final class Scene {
         return x;
     }
 
-    /** The collector 7 owns the coins 0 to 9, the collector 0 the coin 10; 11 is in the mint. */
+    /** Collector 7 owns the coins 0 to 9, 0 the coin 10; both want the die; 11 is in the mint. */
     static DieRegister fullCollector() {
         DieRegister x = new DieRegister();
         x.addDie(3);
@@ -147,6 +153,8 @@ final class Scene {
             x.give(coin, 7);
         }
         x.give(10, 0);
+        x.want(0, 0, true);
+        x.want(7, 0, true);
         return x;
     }
 
