@@ -310,7 +310,7 @@ public final class DieRegister {
         Collector getter = theCollector(collector);
         if (given.melted || given.owner != null
                 || getter.owned.size() >= MOST_COINS_OF_A_COLLECTOR) {
-            throw new IllegalStateException("the coin is not in the mint, or the collector owns 10");
+            throw new IllegalStateException("the coin is not in the mint, or they own 10 coins");
         }
         getter.gain(given);
         return getter.owned.size();
@@ -619,6 +619,8 @@ public final class DieRegister {
     private static final class Die {
         private final int number;
         private final int type;
+        /** The value of its coins; a field, for LANGUAGE.md lets calls go eight deep at most. */
+        private final int value;
         private int defects;
         private boolean condemned;
         private int trueCoins;
@@ -627,14 +629,11 @@ public final class DieRegister {
         private Die(int number, int type, int defects) {
             this.number = number;
             this.type = type;
+            this.value = valueOf(type);
             this.defects = defects;
         }
 
-        private int bit() {
-            return 1 << number;
-        }
-
-        private int value() {
+        private static int valueOf(int type) {
             switch (type) {
                 case 0:
                     return 100;
@@ -645,6 +644,10 @@ public final class DieRegister {
                 default:
                     return 1000;
             }
+        }
+
+        private int bit() {
+            return 1 << number;
         }
 
         /** The first coin that it has struck; null if there is none. */
@@ -675,7 +678,7 @@ public final class DieRegister {
 
         /** The price of its true coins, which is the same for all of them; 0 if it has none. */
         private int priceOfTrueCoins() {
-            return trueCoins > 0 ? VALUES_TO_SHARE * value() / (trueCoins + 1) : 0;
+            return trueCoins > 0 ? VALUES_TO_SHARE * value / (trueCoins + 1) : 0;
         }
     }
 
